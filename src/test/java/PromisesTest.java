@@ -249,6 +249,9 @@ public final class PromisesTest {
         CHECKS.badState("5 the part is detached", () -> t.merge(3, 2));
         CHECKS.badNumber("5 number before detached", () -> t.merge(3, 0));
         t.attach(3);
+        t.detach(2);
+        CHECKS.badState("5 the part before the other is detached", () -> t.merge(2, 3));
+        t.attach(2);
         CHECKS.due("5 merge(2, 3)", 0, () -> t.merge(2, 3));
         CHECKS.badNumber("5 gone", () -> t.merge(2, 3));
         CHECKS.badNumber("5 gone as part", () -> t.merge(3, 2));
