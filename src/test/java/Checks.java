@@ -56,7 +56,7 @@ final class Checks {
     }
 
     // The class must be the very one that the document names: one below it comes from the machine.
-    private static String outcome(LongSupplier call) {
+    static String outcome(LongSupplier call) {
         try {
             return Long.toString(call.getAsLong());
         } catch (RuntimeException thrown) {

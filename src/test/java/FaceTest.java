@@ -93,7 +93,9 @@ public final class FaceTest {
         }
         for (Class<?> inner : ParcelledTable.class.getDeclaredClasses()) {
             for (Method method : inner.getDeclaredMethods()) {
-                privateNames.add(method.getName());
+                if (Modifier.isPrivate(method.getModifiers())) {
+                    privateNames.add(method.getName());
+                }
             }
         }
         privateNames.retainAll(publicNames);
